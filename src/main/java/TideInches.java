@@ -582,7 +582,11 @@ public final class TideInches {
         static int partFrom(int start, int within) {
             int part = start;
             for (int i = 0; i < CELLS; i++) {
-                part |= beside(part) & within;
+                int wider = part | (beside(part) & within);
+                if (wider == part) {
+                    return part;
+                }
+                part = wider;
             }
             return part;
         }
@@ -646,7 +650,7 @@ public final class TideInches {
         void make(int row, int lane, int n) {
             lanes[row] = lane;
             lengths[row] = n;
-            for (int i = 0; i < ITEMS; i++) {
+            for (int i = 0; i < n; i++) {
                 items[row * ITEMS + i] = 0;
             }
         }
@@ -1197,13 +1201,16 @@ public final class TideInches {
                 which[sum] = 0;
             }
             int free = isle.freeFor(bidder);
+            int dearest = 0;
             for (int cell = 0; cell < CELLS; cell++) {
                 if ((free & (1 << cell)) != 0) {
-                    offer(1 << cell, isle.costTo(bidder, cell), isle.height(cell), purse);
+                    int cost = isle.costTo(bidder, cell);
+                    dearest = Math.min(purse, dearest + cost);
+                    offer(1 << cell, cost, isle.height(cell), dearest);
                 }
             }
             best = 0;
-            for (int sum = 1; sum <= purse; sum++) {
+            for (int sum = 1; sum <= dearest; sum++) {
                 if (most[sum] > most[best]) {
                     best = sum;
                 }
@@ -1211,8 +1218,8 @@ public final class TideInches {
         }
 
         /** Of as much height the set without this cell stays: cells come upwards, so it has the lesser bits. */
-        private void offer(int bit, int cost, int height, int purse) {
-            for (int sum = purse; sum >= cost && cost >= 0; sum--) {
+        private void offer(int bit, int cost, int height, int dearest) {
+            for (int sum = dearest; sum >= cost && cost >= 0; sum--) {
                 int rest = sum - cost;
                 if (most[rest] >= 0 && most[rest] + height > most[sum]) {
                     most[sum] = most[rest] + height;

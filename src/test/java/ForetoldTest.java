@@ -170,6 +170,10 @@ public final class ForetoldTest {
         TideInches far = Check.isle("i0,6,1;hajjaaaaaaaaaaaa;b9,0;");
         C.due("never", far.home(0, 1), NONE);
         C.due("but there", far.home(0, 0), 0);
+        TideInches late = Check.isle("i2,8,1;hfdfbebjdddjfdjg;b9,2;");
+        C.due("25 hours are too many", late.home(0, 8), NONE);
+        late.hours(1);
+        C.due("24 hours", late.home(0, 8), 24);
     }
 
     private static void homeIsShut() {
@@ -214,6 +218,13 @@ public final class ForetoldTest {
         TideInches seal = Check.isle("i4,9,1;hbcdefaaaaaaaaaj;l0,0;");
         C.due("wet ones", seal.buy(0, 0), 10);
         C.due("wet ones with inches alone", seal.buy(0, 1), 15);
+        C.due("no price for an inch", Check.isle("i0,0,1;hbaaaaaaaaaaaaaa;b0,0;").buy(0, 0), 0);
+        C.due("a price of 1 for an inch", Check.isle("i0,0,1;hbaaaaaaaaaaaaaa;b9,0;").buy(0, 1), 1);
+        TideInches two = Check.isle("i1,1,1;hbccaaaaaaaaaaaa;l9,0;b1,0;b99,0;");
+        C.due("a seal's", two.buy(0, 1), 1);
+        C.due("a poor buyer's behind it", two.buy(1, 1), 0);
+        C.due("a rich one's", two.buy(2, 1), 6);
+        C.due("a poor one's behind it", two.buy(1, 0), 0);
     }
 
     private static void buyBreaksTies() {
@@ -262,7 +273,9 @@ public final class ForetoldTest {
         C.due("k 16", x.harvest(0, 16, 1), BAD);
         C.due("n 0", x.harvest(0, 1, 0), BAD);
         C.due("n 13", x.harvest(0, 1, 13), BAD);
-        C.due("fifteen", Check.isle("i0,0,1;hbbbbbbbbbbbbbbb;b0,0;").harvest(0, 15, 12), 15);
+        C.due("fifteen", Check.isle("i0,0,1;hjbbbbbbbbbbbbbb;b0,0;").harvest(0, 15, 12), 23);
+        C.due("fourteen", Check.isle("i0,0,1;hjbbbbbbbbbbbbbb;b0,0;").harvest(0, 14, 12), 14);
+        C.due("cell 0 is lost", Check.isle("i0,6,1;hbbbbbbbbbbbbbjj;b0,0;").harvest(0, 1, 1), 9);
     }
 
     private static void raisedTells() {
@@ -376,6 +389,7 @@ public final class ForetoldTest {
         C.due("round 4", x.ring(4, 0), 2 * (2 + 5 + 1));
         x.bid(0, 8);
         x.bid(4, 9);
+        C.due("by cells 0 and 14", Check.isle(FLAT).ring(1, 0) + Check.isle(FLAT).ring(13, 0), 60);
         C.due("held cost nothing", x.ring(7, 0), 2 * (2 + 3 + 2 + 6 + 4 + 8 + 4));
         C.due("held are counted", x.ring(7, 1), 8);
         C.due("itself held", x.ring(8, 0), 2 * (3 + 2 + 0 + 9 + 8 + 4 + 2));
@@ -414,6 +428,10 @@ public final class ForetoldTest {
         Check.row(y, 0, 1, 2);
         C.due("81 to 99", y.purses(0, 0, 0, 2, 0), 19);
         C.due("81", y.purses(0, 0, 0, 2, 1), 81);
+        TideInches z = Check.isle("i0,0,1;hbbbbbbbbbbbbbbb;b0,0;");
+        Check.row(z, 0, 1, 2);
+        C.due("one alone", z.purses(0, 0, 0, 2, 0), 1);
+        C.due("1", z.purses(0, 0, 0, 2, 1), 1);
     }
 
     private static void pursesRefuse() {
@@ -465,6 +483,14 @@ public final class ForetoldTest {
         C.due("bought and lost", y.drawn(1, 1, 0), 0);
         C.due("paid for", y.drawn(1, 1, 1), 17);
         C.due("wet from then on", y.drawn(12, 1, 1), 17);
+        C.due("all its money", Check.isle("i0,0,1;hbbbbbbbbbbbbbbb;b1,0;").drawn(1, 1, 0), 1);
+        C.due("all its money", Check.isle("i0,0,1;hbbbbbbbbbbbbbbb;b1,0;").drawn(1, 1, 1), 0);
+        TideInches five = Check.isle(ISLE);
+        int[][] drawn = {{5, 99, 2, 89}, {10, 4711, 2, 85}, {20, 2, 4, 86}, {40, 1, 4, 72}, {60, 999999, 3, 65}};
+        for (int[] one : drawn) {
+            C.due("held by " + one[1], five.drawn(one[0], one[1], 0), one[2]);
+            C.due("purses by " + one[1], five.drawn(one[0], one[1], 1), one[3]);
+        }
         TideInches z = Check.isle("i0,0,1;hbbbbbbbbbbbbbbb;b0,0;g0,0;");
         C.due("no money", z.drawn(60, 999999, 0), 0);
         TideInches w = Check.isle("i0,0,1;hbbbbbbbbbbbbbbb;b9,0;g9,0;");

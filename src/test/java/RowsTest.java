@@ -172,6 +172,9 @@ public final class RowsTest {
         C.due("no rows", x.count(0), 0);
         C.due("again", x.drop(4), NULL);
         C.due("set", x.set(4, 0, 1), NULL);
+        x.row(4, 1, 1);
+        x.set(4, 0, 9);
+        x.drop(4);
         x.row(4, 1, 0);
         C.due("none in it", x.drop(4), 0);
         x.row(4, 2, 1);

@@ -142,6 +142,12 @@ public final class TextTest {
             C.due("end " + end, read(whole.substring(0, end)), due);
         }
         C.due("whole", read(whole), 2);
+        // What an earlier tape had behind the end does not count.
+        TideInches x = Check.isle(whole);
+        for (int end = whole.length() - 1; end >= 0; end--) {
+            Check.tell(x, whole.substring(0, end));
+            C.due("end " + end + " of a shorter tape", x.isle(), end == 30 ? 1 : -1000100 - end);
+        }
     }
 
     private static void biddersAreTooMany() {
@@ -205,5 +211,13 @@ public final class TextTest {
         C.due("images stay", x.restore(1), 1);
         C.due("the image's bidders", x.count(1), 2);
         C.due("the image's hour", x.count(4), 2);
+        x.drawn(30, 5, 0);
+        Check.tell(x, LAW + HEIGHTS + "g1,1;");
+        x.isle();
+        C.due("drawn hours leave no hour", x.count(4), 0);
+        C.due("and nothing held", x.count(5), 0);
+        Check.tell(x, "i1,1,1;" + HEIGHTS + "x");
+        x.isle();
+        C.due("nor does a faulty isle", x.count(2), 0);
     }
 }
