@@ -135,6 +135,7 @@ public final class ForetoldTest {
         C.due("a line", Check.isle("i0,9,1;hbbbbbaaaaaaaaaa;b1,1;").cuts(), 2 + 4 + 8);
         C.due("alone", Check.isle("i0,9,1;hbabaaaaaaaaaaaa;b1,1;").cuts(), 0);
         C.due("none", Check.isle("i0,9,1;haaaaaaaaaaaaaaa;b1,1;").cuts(), 0);
+        C.due("corners", Check.isle("i0,9,1;hbbaaabaaabaaabb;b1,1;").cuts(), 1 + 16384);
         C.due("in one part of two", Check.isle("i0,9,1;hbbbaaaaaaabbaaa;b1,1;").cuts(), 2);
         TideInches x = Check.isle(ISLE);
         x.hours(2);

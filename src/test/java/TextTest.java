@@ -211,7 +211,10 @@ public final class TextTest {
         C.due("images stay", x.restore(1), 1);
         C.due("the image's bidders", x.count(1), 2);
         C.due("the image's hour", x.count(4), 2);
-        x.drawn(30, 5, 0);
+        Check.tell(x, "i0,0,1;" + HEIGHTS + "g9,1;");
+        x.isle();
+        // Cells 7, 4 and 8.
+        C.due("held behind drawn hours", x.drawn(3, 1, 0), 3);
         Check.tell(x, LAW + HEIGHTS + "g1,1;");
         x.isle();
         C.due("drawn hours leave no hour", x.count(4), 0);
