@@ -262,6 +262,12 @@ public final class BoundsForetoldTest {
         TideInches exact = Check.isle("i0,0,9;hjcaaaaaaaaaaaaa;b99,0;b98,0;");
         C.due("99 of 99", exact.buy(0, 0), 11);
         C.due("81 of 98", exact.buy(1, 0), 9);
+        // 9, 2, 8 and 8 inches: what 99 bought once it buys no more when the 9 are held.
+        TideInches anew = Check.isle("i0,0,9;hjciiaaaaaaaaaaa;b99,0;b99,0;");
+        C.due("99 of 99, which", anew.buy(0, 1), 1 + 2);
+        anew.bid(1, 0);
+        C.due("90 of 99", anew.buy(0, 0), 10);
+        C.due("90 of 99, which", anew.buy(0, 1), 2 + 4);
         for (int what : NO_CHOICE) {
             RICH.refused("buy, what " + what, x -> x.buy(0, what), BAD);
         }
@@ -421,19 +427,21 @@ public final class BoundsForetoldTest {
         C.due("the last two items", Twins.rich().who(2, 38, 1), 0);
         RICH.refused("who of an empty row", y -> y.who(6, 0, 1), PLACE);
         RICH.refused("who, NULL ahead of PLACE", y -> y.who(3, -1, 1), NULL);
-        // Row 0 of the rich one: 3 4 4 0 5. Made odd: no cell at CELLS, no matter at PRICES.
         for (int item : new int[] {-1, 15, MOST, LEAST}) {
-            Twins odd = new Twins(C, () -> {
-                TideInches y = Twins.rich();
-                y.set(0, 2, item);
-                y.drop(3);
-                return y;
-            });
+            Twins odd = new Twins(C, () -> withItem(item));
             odd.refused("no cell " + item, y -> y.who(0, 0, 2), BAD);
             odd.refused("no cell " + item + ", PLACE ahead", y -> y.who(0, 2, 2), PLACE);
             odd.askedOfRows(item + " is behind them", y -> y.who(0, 0, 1), 2);
             odd.askedOfRows(item + " is a price", y -> y.who(0, 1, 1), 0);
         }
+    }
+
+    /** Row 0 has this ITEM at 2, between 3 4 and 0 5; the latest finding is NULL. */
+    private static TideInches withItem(int item) {
+        TideInches x = Twins.rich();
+        x.set(0, 2, item);
+        x.drop(3);
+        return x;
     }
 
     private static int who(TideInches x, int... items) {
@@ -514,12 +522,7 @@ public final class BoundsForetoldTest {
         RICH.refused("purses of an empty row", y -> y.purses(0, 6, 0, 1, 0), PLACE);
         RICH.refused("purses, NULL ahead of PLACE", y -> y.purses(0, 3, -1, 1, 0), NULL);
         for (int item : new int[] {-1, 15, MOST, LEAST}) {
-            Twins odd = new Twins(C, () -> {
-                TideInches y = Twins.rich();
-                y.set(0, 2, item);
-                y.drop(3);
-                return y;
-            });
+            Twins odd = new Twins(C, () -> withItem(item));
             odd.refused("no cell " + item, y -> y.purses(0, 0, 0, 5, 0), BAD);
             odd.refused("no cell " + item + ", the first", y -> y.purses(0, 0, 2, 3, 1), BAD);
             odd.refused("no cell " + item + ", the last", y -> y.purses(0, 0, 0, 3, 0), BAD);

@@ -36,7 +36,7 @@ public final class BoundsTextsTest {
 
     /** How many bidders there are, or 10 times the place, and the number, of the fault, below 0. */
     private static int read(String text) {
-        TideInches x = Check.isle("");
+        TideInches x = new TideInches();
         Check.tell(x, text);
         int answer = x.isle();
         return answer >= 0 ? answer : 10 * (answer + 1000100) - x.fault();
